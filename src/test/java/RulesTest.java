@@ -1,0 +1,124 @@
+import java.io.IOException;
+import java.lang.reflect.Field;
+import java.lang.reflect.Method;
+import java.lang.reflect.Modifier;
+import java.nio.file.Files;
+import java.nio.file.Path;
+import java.util.Arrays;
+import java.util.List;
+import java.util.Set;
+import java.util.TreeSet;
+import java.util.regex.Matcher;
+import java.util.regex.Pattern;
+
+/** The face of the document, and the rules of LANGUAGE.md that can be seen in the class and its file. */
+public final class RulesTest {
+    private static final Path SOURCE = Path.of("src/main/java/ThunderPost.java");
+    private static final String FACE = "int office(int,int,int,int); int ofPerson(int,int); int ofClap(int,int); "
+        + "int nerve(int,int); int damp(int); int send(int,int); int loud(int,int); int owner(int,int); int last(int); "
+        + "int open(int,int,int,int,int); int ease(int,int); int shelf(int,int,int,int,int); int order(int,int); "
+        + "int reading(int,int,int); int back(int); int sizes(int); int kinds(int); int damps(); "
+        + "long odds(int,int,int); int sheet(int,int,int); int lose(int); int put(int,int,int); "
+        + "long cell(int,int,int); int copy(int,int,int,int,int); int tell(int); int cork(int); int as(int,int); "
+        + "int trace(); int fault(); int many(int)";
+    private static final Set<String> CONSTANTS = Set.of("UNKNOWN", "OUTSIDE", "STATE", "FULL", "NONE", "LOST");
+    private static final List<String> RULED_OUT = List.of("\\bthrow\\b", "\\bthrows\\b", "\\btry\\b", "\\bcatch\\b",
+        "\\bsynchronized\\b", "\\bassert\\b", "\\bimport\\b", "\\bpackage\\b", "\\bvolatile\\b", "\\bnative\\b", "->",
+        "::", "\\bstatic\\s*\\{", "Exact\\b", "\\bwhile\\s*\\(\\s*true\\b", "\\bfor\\s*\\(\\s*;");
+    private static final Check CHECK = new Check("RulesTest");
+
+    public static void main(String[] args) throws IOException {
+        face();
+        classes();
+        source(Files.readString(SOURCE));
+        CHECK.end();
+    }
+
+    private static void yes(String what, boolean holds) {
+        CHECK.due(what, holds ? 1 : 0, 1);
+    }
+
+    private static void face() {
+        Class<?> post = ThunderPost.class;
+        yes("the class is public and final", Modifier.isPublic(post.getModifiers()) && Modifier.isFinal(post.getModifiers()));
+        yes("one constructor, public and bare", post.getDeclaredConstructors().length == 1
+            && post.getConstructors().length == 1 && post.getConstructors()[0].getParameterCount() == 0);
+        Set<String> found = new TreeSet<>();
+        for (Method method : post.getDeclaredMethods()) {
+            int modifiers = method.getModifiers();
+            if (Modifier.isPrivate(modifiers)) {
+                continue;
+            }
+            yes(method.getName() + " is public and no class's own", Modifier.isPublic(modifiers) && !Modifier.isStatic(modifiers));
+            String types = Arrays.toString(method.getParameterTypes()).replaceAll("[\\[\\] ]", "");
+            found.add(method.getReturnType() + " " + method.getName() + "(" + types + ")");
+        }
+        CHECK.due("the methods of the face: " + found, found.equals(new TreeSet<>(List.of(FACE.split("; ")))) ? 1 : 0, 1);
+        for (Field field : post.getDeclaredFields()) {
+            int modifiers = field.getModifiers();
+            boolean constant = Modifier.isPublic(modifiers) && Modifier.isStatic(modifiers) && Modifier.isFinal(modifiers);
+            yes(field.getName() + " is private, or a constant of the face",
+                CONSTANTS.contains(field.getName()) ? constant : Modifier.isPrivate(modifiers));
+        }
+    }
+
+    private static void classes() {
+        Set<String> faceNames = new TreeSet<>();
+        for (Method method : ThunderPost.class.getMethods()) {
+            faceNames.add(method.getName());
+        }
+        Class<?>[] inside = ThunderPost.class.getDeclaredClasses();
+        yes("at most twelve classes", inside.length < 12);
+        oneClass(ThunderPost.class, faceNames);
+        for (Class<?> one : inside) {
+            yes(one.getName() + " is static", Modifier.isStatic(one.getModifiers()));
+            yes(one.getName() + " is not public", !Modifier.isPublic(one.getModifiers()) && !Modifier.isProtected(one.getModifiers()));
+            oneClass(one, faceNames);
+        }
+    }
+
+    private static void oneClass(Class<?> one, Set<String> faceNames) {
+        int fields = 0;
+        for (Field field : one.getDeclaredFields()) {
+            boolean isStatic = Modifier.isStatic(field.getModifiers());
+            yes(field + " is final, if static", !isStatic || Modifier.isFinal(field.getModifiers()));
+            fields += isStatic ? 0 : 1;
+        }
+        yes(one.getName() + " has at most twenty fields", fields <= 20);
+        for (Method method : one.getDeclaredMethods()) {
+            yes(method + " takes at most seven parameters", method.getParameterCount() <= 7);
+            boolean ofFace = one == ThunderPost.class && Modifier.isPublic(method.getModifiers());
+            yes(method + " has a name of its own", ofFace || !faceNames.contains(method.getName()));
+        }
+    }
+
+    private static void source(String whole) {
+        for (int k = 0; k < whole.length(); k++) {
+            if (whole.charAt(k) > 126) {
+                yes("the sign at " + k + " is a plain one", false);
+            }
+        }
+        String code = whole.replaceAll("(?s)/\\*.*?\\*/", "").replaceAll("//[^\n]*", "");
+        for (String ruledOut : RULED_OUT) {
+            yes("no " + ruledOut, !Pattern.compile(ruledOut).matcher(code).find());
+        }
+        // Rows are made once, with the object: no method but a constructor makes anything.
+        Matcher made = Pattern.compile("(?m)^.*\\bnew\\b.*$").matcher(code);
+        while (made.find()) {
+            String line = made.group().trim();
+            yes("made with the object: " + line, line.matches("(private )?(final )?[\\w\\[\\]]+ \\w+ = new .*;")
+                || line.equals("sheets[k] = new Sheet();"));
+        }
+        int start = 0;
+        String[] lines = whole.split("\n");
+        for (int k = 0; k < lines.length; k++) {
+            if (lines[k].matches(" {4}(?: {4})?[a-z].*\\) \\{")) {
+                start = k;
+            }
+            if (lines[k].matches(" {4}(?: {4})?\\}")) {
+                yes("the method at line " + (start + 1) + " is short", k - start <= 60);
+                start = k;
+            }
+        }
+    }
+}

@@ -236,7 +236,7 @@ public final class ThunderPost {
             return NONE;
         }
         shelf.measure(office, m);
-        return Shelf.fillFrom(shelf, 0, 0) ? shelf.row[k] : NONE;
+        return shelf.fillInOrder() ? shelf.row[k] : NONE;
     }
 
     // ---- 4 how loud it was
@@ -247,9 +247,6 @@ public final class ThunderPost {
         }
         if (!isMonth(m) || v < 0 || v > MOST_READ) {
             return OUTSIDE;
-        }
-        if (readings.count >= MOST_READINGS) {
-            return FULL;
         }
         return readings.add(c, m, v);
     }
@@ -312,7 +309,8 @@ public final class ThunderPost {
         }
         int upper = 0;
         int lower = office.everybody() + 1;
-        for (int atHome = 0; atHome <= office.everybody(); atHome++) {
+        int homes = lower;
+        for (int atHome = 0; atHome < homes; atHome++) {
             if (office.takerOf(c, m, atHome) != NONE) {
                 upper++;
             }
@@ -892,6 +890,10 @@ public final class ThunderPost {
             return isClap(ahead) && Math.abs(loudnesses[c] - loudnesses[ahead]) >= gap;
         }
 
+        boolean fillInOrder() {
+            return fillFrom(this, 0, 0);
+        }
+
         // Claps are tried in the order of their numbers, so the first row that is filled is the first of all.
         private static boolean fillFrom(Shelf shelf, int place, int standing) {
             if (place >= shelf.claps || place >= MOST_CLAPS) {
@@ -917,7 +919,7 @@ public final class ThunderPost {
         int count = 0;
 
         int add(int c, int m, int v) {
-            if (count < 0 || count >= MOST_READINGS) {
+            if (count >= MOST_READINGS) {
                 return FULL;
             }
             heardClaps[count] = c;

@@ -307,9 +307,9 @@ public final class ThunderPost {
         if (!office.hasClap(c) || !isMonth(m) || which < 0 || which > 1) {
             return LOST;
         }
+        int homes = office.everybody() + 1;
         int upper = 0;
-        int lower = office.everybody() + 1;
-        int homes = lower;
+        int lower = homes;
         for (int atHome = 0; atHome < homes; atHome++) {
             if (office.takerOf(c, m, atHome) != NONE) {
                 upper++;

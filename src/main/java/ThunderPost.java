@@ -687,13 +687,24 @@ public final class ThunderPost {
         }
 
         private int takeKind() {
-            if (takes('c')) {
-                return KIND_CLAP;
+            int kind = kindOf(nextCode());
+            if (kind >= 0) {
+                at++;
             }
-            if (takes('d')) {
-                return KIND_DRY;
+            return kind;
+        }
+
+        private static int kindOf(int letter) {
+            switch (letter) {
+                case 'c':
+                    return KIND_CLAP;
+                case 'd':
+                    return KIND_DRY;
+                case 'b':
+                    return KIND_BOOMING;
+                default:
+                    return NONE;
             }
-            return takes('b') ? KIND_BOOMING : NONE;
         }
 
         private int takeDigit(int least, int most) {

@@ -16,16 +16,6 @@ final class Check {
         }
     }
 
-    void dueFault(String call, ThunderPost x, long got, int fault) {
-        due(call, got, -10L - fault);
-        due("fault() behind " + call, x.fault(), fault);
-    }
-
-    void dueRefused(String call, ThunderPost x, long got, int refusal) {
-        due(call, got, refusal);
-        due("fault() behind " + call, x.fault(), 0);
-    }
-
     void end() {
         System.out.println(test + ": " + asked + " answers, " + wrong + " wrong");
         if (wrong != 0) {

@@ -188,6 +188,8 @@ final class OfficePromises extends PromiseTests {
         }
         notTaken(LONGEST + "x", 42);
         notTaken("t12,50;c41", 9);
+        notTaken("t12;c40", 3);
+        notTaken("t12,50,50;c42", 12);
     }
 
     private void tooMany() {
@@ -208,6 +210,9 @@ final class OfficePromises extends PromiseTests {
             int want = isWhole ? (n - 18) / 4 : -100 - n;
             due("the first " + n + " codes", Check.tellOffice(x, LONGEST.substring(0, n)), want);
         }
+        for (int n = 0; n <= 18; n++) {
+            notTaken(LONGEST.substring(0, n), n);
+        }
         says(2, "how many codes there are");
         ThunderPost x = withRow(Scene.NEW, 0, 2, Check.codes(LONGEST));
         answers(x, -100, "office", 0, 2, 0, 0);
@@ -216,11 +221,21 @@ final class OfficePromises extends PromiseTests {
     }
 
     private void notTaken(String text, int place) {
-        ThunderPost x = new ThunderPost();
+        notTaken(new ThunderPost(), text, place);
+        // What earlier texts told is nothing to this one.
+        ThunderPost x = Check.officeOf(LONGEST);
+        Check.tellOffice(x, Scene.TEXT);
+        Check.tellOffice(x, LONGEST);
+        notTaken(x, text, place);
+    }
+
+    private void notTaken(ThunderPost x, String text, int place) {
+        int claps = x.many(0);
+        int people = x.many(1);
         due("office of " + text, Check.tellOffice(x, text), -100 - place);
         due("fault() behind " + text, x.fault(), 0);
-        due("claps behind " + text, x.many(0), 0);
-        due("people behind " + text, x.many(1), 0);
+        due("claps behind " + text, x.many(0), claps);
+        due("people behind " + text, x.many(1), people);
     }
 
     private void codes() {

@@ -14,6 +14,7 @@ import java.util.regex.Pattern;
 /** The face of the document, and the rules of LANGUAGE.md that can be seen in the class and its file. */
 public final class RulesTest {
     private static final Path SOURCE = Path.of("src/main/java/ThunderPost.java");
+    private static final Path DOCUMENT = Path.of("../shared/DOC.md");
     private static final String FACE = "int office(int,int,int,int); int ofPerson(int,int); int ofClap(int,int); "
         + "int nerve(int,int); int damp(int); int send(int,int); int loud(int,int); int owner(int,int); int last(int); "
         + "int open(int,int,int,int,int); int ease(int,int); int shelf(int,int,int,int,int); int order(int,int); "
@@ -30,7 +31,9 @@ public final class RulesTest {
     public static void main(String[] args) throws IOException {
         face();
         classes();
-        source(Files.readString(SOURCE));
+        String whole = Files.readString(SOURCE);
+        source(whole);
+        headings(whole, Files.readString(DOCUMENT));
         CHECK.end();
     }
 
@@ -90,6 +93,23 @@ public final class RulesTest {
             boolean ofFace = one == ThunderPost.class && Modifier.isPublic(method.getModifiers());
             yes(method + " has a name of its own", ofFace || !faceNames.contains(method.getName()));
         }
+    }
+
+    /** The document's lines "Ahead of the calls .. the interface says: ----": each call stands behind its heading. */
+    private static void headings(String whole, String document) {
+        Matcher line = Pattern.compile("(?m)^Ahead of the calls (.*) the interface says: (---- .*)\\.$").matcher(document);
+        int lines = 0;
+        while (line.find()) {
+            lines++;
+            int from = whole.indexOf("// " + line.group(2) + "\n");
+            int next = whole.indexOf("// ----", from + 1);
+            Matcher call = Pattern.compile("`(\\w+)`").matcher(line.group(1));
+            while (call.find()) {
+                int at = whole.indexOf(" " + call.group(1) + "(", whole.indexOf("public ThunderPost()"));
+                yes(call.group(1) + " stands behind " + line.group(2), from >= 0 && at > from && (next < 0 || at < next));
+            }
+        }
+        CHECK.due("headings of the document", lines, 5);
     }
 
     private static void source(String whole) {

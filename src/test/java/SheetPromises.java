@@ -65,6 +65,10 @@ final class SheetPromises extends PromiseTests {
         row(x, 0, 2, 0, 0, 0, 0, 0);
         answers(x, 1, "sheet", 0, 1, 2);
         row(x, 0, 1, 0, 0);
+        x.sheet(3, 2, 60);
+        x.put(3, 59, 6);
+        answers(x, 1, "sheet", 3, 2, 60);
+        answers(x, 0, "cell", 3, 59, 2);
         row(x, 1, 2, 7, 8, 9);
         row(x, 2, 0, 7, 8, 9);
     }

@@ -151,6 +151,8 @@ final class TakingPromises extends PromiseTests {
         opens("t00,35,05;c50;c11;c21", new int[] {0, 1, 1}, 0, 5);
         opens("t00,95,95;c50;c11;c21", new int[] {0, 1, 1}, 0, 0);
         opens("t00,05,05,05,05,05;c90;c91;c92;c93;c94", new int[] {0, 0, 0, 0, 0}, 0, 45);
+        opens("t00,05;c90;c90;c90;c90;c90;c90", new int[] {0, 0, 0, 0, 0, 0}, 0, 54);
+        opens("t00,95;c90;c90;c90;c90;c90;c90", new int[] {0, 1, 2, 3, 3, 3}, 0, 18);
     }
 
     private void openMonthSet() {
@@ -160,12 +162,14 @@ final class TakingPromises extends PromiseTests {
         }
         opens("t00,95,95;c10;c11;c10;c11;c10;c11", new int[] {0, 1, 2, 3, 0, 1}, 1, 15);
         opens("t00,95,95;c10;c11", new int[] {3, 3}, 1, 8);
+        opens("t00,95;c10;c10;c10;c10;c10;c10", new int[] {0, 0, 0, 0, 0, 3}, 1, 9);
     }
 
     private void openMostHarm() {
         says(11, "the PERSON to whom there is the most HARM (2; of several the least; NONE: there is none),");
         opens("t00,95,35,15;c90;c91;c92", new int[] {0, 0, 0}, 2, 2);
         opens("t00,15,35,95;c90;c91;c92", new int[] {0, 0, 0}, 2, 0);
+        opens("t00,05,05,05,05,05;c10;c21;c32;c43;c54", new int[] {0, 0, 0, 0, 0}, 2, 4);
         says(11, "of several the least;");
         opens("t00,95,00,00;c12;c11", new int[] {0, 0}, 2, 1);
         opens("t00,85,85,85;c90;c91;c92", new int[] {0, 1, 2}, 2, 0);
@@ -270,6 +274,7 @@ final class TakingPromises extends PromiseTests {
                 }
             }
         }
+        refused(opening("t00,95;c10;c10;c10;c10;c10;c10", 0, 0, 0, 0, 0, 4), OUTSIDE, "open", 1, 2, 0, 6, 1);
         says(11, "what comes to a cell of it is cut to its LANE.");
         answers(withRow(Scene.OFFICE, 1, 0, 256, 257, 258, 259, 512), 15, "open", 1, 0, 0, 5, 1);
         answers(withRow(Scene.OFFICE, 1, 1, 256, 257, 258, 259, 512), OUTSIDE, "open", 1, 1, 0, 5, 1);

@@ -15,25 +15,18 @@ import java.util.regex.Pattern;
 public final class RulesTest {
     private static final Path SOURCE = Path.of("src/main/java/ThunderPost.java");
     private static final Path DOCUMENT = Path.of("../shared/DOC.md");
-    private static final String FACE = "int office(int,int,int,int); int ofPerson(int,int); int ofClap(int,int); "
-        + "int nerve(int,int); int damp(int); int send(int,int); int loud(int,int); int owner(int,int); int last(int); "
-        + "int open(int,int,int,int,int); int ease(int,int); int shelf(int,int,int,int,int); int order(int,int); "
-        + "int reading(int,int,int); int back(int); int sizes(int); int kinds(int); int damps(); "
-        + "long odds(int,int,int); int sheet(int,int,int); int lose(int); int put(int,int,int); "
-        + "long cell(int,int,int); int copy(int,int,int,int,int); int tell(int); int cork(int); int as(int,int); "
-        + "int trace(); int fault(); int many(int)";
-    private static final Set<String> CONSTANTS = Set.of("UNKNOWN", "OUTSIDE", "STATE", "FULL", "NONE", "LOST");
     private static final List<String> RULED_OUT = List.of("\\bthrow\\b", "\\bthrows\\b", "\\btry\\b", "\\bcatch\\b",
         "\\bsynchronized\\b", "\\bassert\\b", "\\bimport\\b", "\\bpackage\\b", "\\bvolatile\\b", "\\bnative\\b", "->",
         "::", "\\bstatic\\s*\\{", "Exact\\b", "\\bwhile\\s*\\(\\s*true\\b", "\\bfor\\s*\\(\\s*;");
     private static final Check CHECK = new Check("RulesTest");
 
     public static void main(String[] args) throws IOException {
-        face();
-        classes();
         String whole = Files.readString(SOURCE);
+        String document = Files.readString(DOCUMENT);
+        face(document.substring(document.indexOf("```java\n"), document.indexOf("## Terms")));
+        classes();
         source(whole);
-        headings(whole, Files.readString(DOCUMENT));
+        headings(whole, document);
         CHECK.end();
     }
 
@@ -41,13 +34,26 @@ public final class RulesTest {
         CHECK.due(what, holds ? 1 : 0, 1);
     }
 
-    private static void face() {
+    /** The document's own lines of the face tell what there must be, and nothing else may be seen. */
+    private static void face(String lines) {
         Class<?> post = ThunderPost.class;
         yes("the class is public and final", Modifier.isPublic(post.getModifiers()) && Modifier.isFinal(post.getModifiers()));
         yes("one constructor, public and bare", post.getDeclaredConstructors().length == 1
             && post.getConstructors().length == 1 && post.getConstructors()[0].getParameterCount() == 0);
+        methods(lines);
+        constants(lines);
+    }
+
+    private static void methods(String lines) {
+        Set<String> told = new TreeSet<>();
+        Matcher line = Pattern.compile("public (int|long) (\\w+)\\(([^)]*)\\);").matcher(lines);
+        while (line.find()) {
+            String types = line.group(3).replaceAll("(int|long) \\w+", "$1").replace(" ", "");
+            told.add(line.group(1) + " " + line.group(2) + "(" + types + ")");
+        }
+        CHECK.due("methods that the document tells", told.size(), 30);
         Set<String> found = new TreeSet<>();
-        for (Method method : post.getDeclaredMethods()) {
+        for (Method method : ThunderPost.class.getDeclaredMethods()) {
             int modifiers = method.getModifiers();
             if (Modifier.isPrivate(modifiers)) {
                 continue;
@@ -56,12 +62,36 @@ public final class RulesTest {
             String types = Arrays.toString(method.getParameterTypes()).replaceAll("[\\[\\] ]", "");
             found.add(method.getReturnType() + " " + method.getName() + "(" + types + ")");
         }
-        CHECK.due("the methods of the face: " + found, found.equals(new TreeSet<>(List.of(FACE.split("; ")))) ? 1 : 0, 1);
-        for (Field field : post.getDeclaredFields()) {
+        yes("the methods of the face: " + found, found.equals(told));
+    }
+
+    private static void constants(String lines) {
+        Set<String> told = new TreeSet<>();
+        Matcher line = Pattern.compile("public static final (int|long) ([^;]*);").matcher(lines);
+        while (line.find()) {
+            for (String constant : line.group(2).split(", ")) {
+                told.add(line.group(1) + " " + constant.replace("Long.MIN_VALUE", String.valueOf(Long.MIN_VALUE)));
+            }
+        }
+        CHECK.due("constants that the document tells", told.size(), 6);
+        Set<String> found = new TreeSet<>();
+        for (Field field : ThunderPost.class.getDeclaredFields()) {
             int modifiers = field.getModifiers();
+            if (Modifier.isPrivate(modifiers)) {
+                continue;
+            }
             boolean constant = Modifier.isPublic(modifiers) && Modifier.isStatic(modifiers) && Modifier.isFinal(modifiers);
-            yes(field.getName() + " is private, or a constant of the face",
-                CONSTANTS.contains(field.getName()) ? constant : Modifier.isPrivate(modifiers));
+            yes(field.getName() + " is a public constant", constant);
+            found.add(field.getType() + " " + field.getName() + " = " + (constant ? valueOf(field) : "?"));
+        }
+        yes("the constants of the face: " + found, found.equals(told));
+    }
+
+    private static String valueOf(Field constant) {
+        try {
+            return String.valueOf(constant.get(null));
+        } catch (IllegalAccessException hidden) {
+            throw new IllegalStateException(hidden);
         }
     }
 
